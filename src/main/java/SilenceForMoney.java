@@ -333,7 +333,11 @@ public final class SilenceForMoney {
             return NONE;
         }
         if (law == NONE) {
-            return betterLaw(n);
+            think(n, 0);
+            int paid = dream.book.paid;
+            int again = dream.book.again;
+            think(n, 1);
+            return dream.book.isBetterThan(paid, again) ? 1 : 0;
         }
         if (!isLaw(law) || !isWithin(what, 0, 3)) {
             return NONE;
@@ -399,17 +403,6 @@ public final class SilenceForMoney {
         for (int i = 0; i < n * DAY_QUARTERS; i++) {
             dream.pass();
         }
-    }
-
-    private int betterLaw(int n) {
-        think(n, 0);
-        int paid = dream.book.paid;
-        int again = dream.book.again;
-        think(n, 1);
-        if (dream.book.paid != paid) {
-            return dream.book.paid > paid ? 1 : 0;
-        }
-        return dream.book.again < again ? 1 : 0;
     }
 
     private static boolean isWithin(int v, int least, int most) {
@@ -904,6 +897,10 @@ public final class SilenceForMoney {
             lines[at + 3] = who;
             lines[at + 4] = d;
             count++;
+        }
+
+        boolean isBetterThan(int otherPaid, int otherAgain) {
+            return paid == otherPaid ? again < otherAgain : paid > otherPaid;
         }
 
         int countOf(int what) {
