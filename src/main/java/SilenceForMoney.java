@@ -1727,17 +1727,18 @@ public final class SilenceForMoney {
 
         /** How many QUARTERS till all DEBTS are DONE; NONE if they are not in 60 DAYS. */
         int tillQuiet() {
-            if (debts.allHours() > 0 && (town.ringer == NONE || time.feasts == 1)) {
+            int paidThen = book.paid + debts.allHours();
+            if (paidThen > book.paid && (town.ringer == NONE || time.feasts == 1)) {
                 // No QUARTER ever counts then, and what is drawn in thought does not stay.
                 return NONE;
             }
             for (int i = 0; i < QUIET_QUARTERS; i++) {
-                if (debts.allHours() == 0) {
+                if (book.paid == paidThen) {
                     return i;
                 }
                 pass();
             }
-            return debts.allHours() == 0 ? QUIET_QUARTERS : NONE;
+            return book.paid == paidThen ? QUIET_QUARTERS : NONE;
         }
 
         /** Those whose WORD can have come there just so loud. */

@@ -208,6 +208,8 @@ public final class BargainsTest {
         check.due("no such any more", y.of(1, 0), -2);
         check.due("a new one is new", y.debt(2, 3, 7), 1);
         check.due("its hours are its own", y.of(1, 2), 7);
+        y.undo();
+        newBehindSplit();
         SilenceForMoney z = town();
         z.split(0, 4);
         z.set(0, 1);
@@ -215,6 +217,24 @@ public final class BargainsTest {
         z.quarters(4);
         check.due("an hour of the new one is paid", z.of(1, 2), 3);
         check.due("it can't be", z.undo(), false);
+    }
+
+    /** A DEBT in the place of one that is gone has nothing of it. */
+    private static void newBehindSplit() {
+        SilenceForMoney x = town();
+        x.sell(0, 2, 0);
+        x.helpers(0, 8);
+        x.split(0, 4);
+        x.set(0, 1);
+        x.set(3, 1);
+        x.quarters(3);
+        check.due("three parts of it", x.of(1, 3), 3);
+        check.due("it goes back", x.undo(), true);
+        check.due("another one", x.debt(3, 2, 5), 1);
+        long[] want = {3, 2, 5, 0, -1, 0, 3, 0};
+        for (int what = 0; what < 8; what++) {
+            check.due("another one's " + what, x.of(1, what), want[what]);
+        }
     }
 
     private static void undoInherit() {

@@ -6,6 +6,7 @@ public final class QuartersTest {
         bounds();
         sortsOfNoise();
         drawsInOrder();
+        drawsAtTheEdge();
         nothingWithoutRinger();
         feasts();
         spoke();
@@ -65,6 +66,22 @@ public final class QuartersTest {
         x.set(7, 24);
         x.quarters(1);
         compare(x, day, "day");
+        Check.text(x, 2, "work 0;");
+        Check.text(x, 3, "talk 0;");
+        x.quarters(1);
+        check.due("work 0 is work", x.noise(0, 0), 3);
+        check.due("so loud", x.noise(0, 1), 0);
+        check.due("talk 0 is talk", x.noise(1, 0), 0);
+        check.due("so loud, too", x.noise(1, 1), 0);
+        Check.text(x, 2, "talk 99;");
+        Check.text(x, 3, "work 99;");
+        x.quarters(1);
+        check.due("talk 99 is talk", x.noise(0, 0), 0);
+        check.due("as loud as can be", x.noise(0, 1), 99);
+        check.due("work 99 is work", x.noise(1, 0), 3);
+        check.due("as loud, too", x.noise(1, 1), 99);
+        Check.text(x, 2, "talk 8;");
+        x.quarters(1);
         check.due("what 3", x.noise(0, 3), -2);
         check.due("what -1", x.noise(0, -1), -2);
         check.due("nobody", x.noise(5, 0), -2);
@@ -101,6 +118,31 @@ public final class QuartersTest {
             }
             draws.of(1000);
             check.due("state in " + quarter, x.look(12), draws.state);
+        }
+    }
+
+    /** A DRAW that is just WHISPERS or FALSE is not below it. */
+    private static void drawsAtTheEdge() {
+        for (int state = 1; state < 40; state++) {
+            int drawn = new Check.Draws(state).of(1000);
+            for (int more = 0; more < 2; more++) {
+                SilenceForMoney x = new SilenceForMoney();
+                x.one(1, 0, 30, drawn + more, 4);
+                x.state(state);
+                x.quarters(1);
+                check.due("cry at the edge", x.noise(0, 0), more == 1 ? 2 : -1);
+                SilenceForMoney y = new SilenceForMoney();
+                y.one(0, 0, 30, drawn + more, 4);
+                y.state(state);
+                y.quarters(1);
+                check.due("whisper at the edge", y.noise(0, 0), more == 1 ? 1 : -1);
+                SilenceForMoney z = pair(3);
+                z.set(0, 1);
+                z.set(2, drawn + more);
+                z.state(state);
+                z.quarters(1);
+                check.due("strike at the edge", z.look(7), drawn + more > 0 && more == 1 ? 1 : 0);
+            }
         }
     }
 

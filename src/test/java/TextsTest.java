@@ -92,6 +92,8 @@ public final class TextsTest {
         check.sound(1, "word when loud+sort-hour*night/7=feast*child;", 1);
         check.sound(2, "talk 0;talk 99;work 0;work 99;hush;hush when 1=1;", 6);
         check.sound(5, "talk99when hour+quarter+day+night+feast=owes+owed+with;", 1);
+        check.sound(0, "word when 1=1" + "+1".repeat(193) + ";", 1);
+        check.sound(0, "word when 1=2" + " or 1=1".repeat(55) + " ;", 1);
         check.sound(2, "hush;".repeat(16), 16);
         check.sound(0, "word when 1=1;".repeat(16), 16);
     }
@@ -105,6 +107,16 @@ public final class TextsTest {
         check.faulty(0, "words when 1=1;", 1, 0);
         check.faulty(0, "wordwhen 1=1;", 1, 0);
         check.faulty(0, "wor when 1=1;", 1, 0);
+        check.faulty(0, "wordz when 1=1;", 1, 0);
+        check.faulty(0, "wordZ when 1=1;", 1, 0);
+        check.faulty(0, "wordA when 1=1;", 1, 0);
+        check.faulty(0, "word[when 1=1;", 1, 4);
+        check.faulty(0, "word{when 1=1;", 1, 4);
+        check.faulty(0, "word`when 1=1;", 1, 4);
+        check.faulty(0, "word@when 1=1;", 1, 4);
+        check.faulty(0, ";".repeat(400), 1, 0);
+        check.faulty(0, "word when 1=1" + "+1".repeat(193) + ")", 1, 399);
+        check.faulty(0, "word when 1=1" + " ".repeat(387), 1, 400);
         check.faulty(0, "word;", 1, 4);
         check.faulty(0, "word when;", 1, 9);
         check.faulty(0, "word when 1=1", 1, 13);
@@ -215,7 +227,7 @@ public final class TextsTest {
 
     private static void arithmetic() {
         String[] so = {
-            "2+3*4=14", "2*3+4=10", "10-3-2=5", "10-2*3-1=3", "20/3=6", "20/3/2=3", "20/3*3=18", "2*7/3=4",
+            "2*3*4=24", "1+2+3=6", "1-2+3=2", "100=1+99*1", "2+3*4=14", "2*3+4=10", "10-3-2=5", "10-2*3-1=3", "20/3=6", "20/3/2=3", "20/3*3=18", "2*7/3=4",
             "0-7=0-7", "0-7<0", "loud-5*2<0", "7-loud/2=4", "1+2*3-4/2=5",
             "1+9999*0=1", "5>4", "4<5", "not 5<5", "not 5>5", "0007=7"};
         for (String b : so) {

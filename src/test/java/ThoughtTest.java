@@ -14,6 +14,8 @@ public final class ThoughtTest {
         better();
         thoughtLeavesNothing();
         image();
+        imageHoldsTheBook();
+        imageHoldsBargains();
         imageHoldsAll();
         check.end();
     }
@@ -196,6 +198,8 @@ public final class ThoughtTest {
         Check.text(x, 3, "work 1 when hour=13 and quarter=0;");
         x.tell(1, 3, 1);
         check.due("he speaks once a day", x.thought(30, 1, 3), 30);
+        x.quarters(20);
+        check.due("what was is not counted", x.thought(1, 0, 0), 24);
         x.set(2, 1000);
         check.due("false strikes", x.thought(1, 0, 2), 96);
         check.due("less his words and theirs that are heard", x.thought(1, 1, 2), 96 - 1 - 4);
@@ -280,6 +284,67 @@ public final class ThoughtTest {
         Check.text(x, 2, "?");
         x.image(false);
         check.due("fault() is not of it", x.fault(0), 1);
+    }
+
+    private static void imageHoldsTheBook() {
+        SilenceForMoney x = pair(9);
+        x.image(true);
+        x.quarters(8);
+        x.tell(0, 4, 50);
+        x.image(false);
+        check.due("no lines", x.look(2), 0);
+        check.due("no line", x.book(0, 1), -1);
+        x.set(7, 1);
+        x.quarters(12);
+        x.image(true);
+        x.image(false);
+        check.due("other lines", x.book(0, 1), 4);
+        x.tell(0, 4, 50);
+        x.debt(1, 0, 3);
+        x.set(7, 40);
+        x.quarters(12);
+        check.due("more lines", x.look(2), 10);
+        x.image(false);
+        check.due("three lines", x.look(2), 3);
+        check.due("the last of them", x.book(2, 1), 12);
+        SilenceForMoney y = new SilenceForMoney();
+        y.image(true);
+        y.one(1, 1, 1, 1, 1);
+        y.tell(0, 4, 50);
+        y.image(false);
+        y.one(0, 0, 0, 0, 4);
+        check.due("no coin of another", y.person(0, 5), 0);
+        SilenceForMoney z = pair(1);
+        z.image(true);
+        z.quarters(4);
+        z.image(false);
+        z.set(0, -1);
+        z.image(true);
+        z.set(0, 1);
+        z.set(7, 9);
+        z.quarters(4);
+        z.image(false);
+        z.set(0, 1);
+        z.quarters(4);
+        check.due("its own line", z.book(0, 1), 3);
+    }
+
+    private static void imageHoldsBargains() {
+        SilenceForMoney x = pair(9);
+        x.one(0, 0, 0, 0, 4);
+        x.lend(0, 2, 0);
+        x.image(true);
+        x.undo();
+        x.sell(0, 2, 0);
+        x.split(0, 3);
+        x.image(false);
+        check.due("one is kept", x.look(11), 1);
+        check.due("it goes back", x.undo(), true);
+        check.due("to him", x.of(0, 1), 1);
+        x.image(false);
+        check.due("and again", x.undo(), true);
+        check.due("to him again", x.of(0, 1), 1);
+        check.due("no more", x.undo(), false);
     }
 
     private static void imageHoldsAll() {
