@@ -20,6 +20,10 @@ final class Check {
         due(call, got ? 1 : 0, want ? 1 : 0);
     }
 
+    void due(String call, String got, String want) {
+        due(call, got.equals(want), true);
+    }
+
     void end() {
         System.out.println(name + ": " + calls + " answers looked at, " + wrong + " not as due");
         if (wrong != 0) {
