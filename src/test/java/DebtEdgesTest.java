@@ -21,6 +21,7 @@ public final class DebtEdgesTest {
         soonestIsNotBelowADebt();
         soonestGoesUpwards();
         childrenMayNot();
+        doneOnesAreNotAsked();
         mostOfEverything();
         aloneOfOneWorker();
         check.end();
@@ -251,6 +252,21 @@ public final class DebtEdgesTest {
         check.due("a HELPER without a PROXY", x.soonest(0), 8);
         x.helpers(1, 0);
         check.due("nobody again", x.soonest(1), -1);
+    }
+
+    /** "Who may for some DEBT": not those who may for DONE ones alone. */
+    private static void doneOnesAreNotAsked() {
+        SilenceForMoney x = Towns.grown(3);
+        x.debt(0, 2, 6);
+        x.debt(0, 2, 5);
+        x.debt(1, 2, 1);
+        check.due("two may", x.soonest(1), 6);
+        x.quarters(4);
+        check.due("one is DONE", x.look(9), 1);
+        check.due("one may", x.soonest(1), 10);
+        check.due("he has all", x.soonest(0), 10);
+        x.helpers(2, 7);
+        check.due("HELPERS of a DONE one", x.soonest(1), 10);
     }
 
     /** Twelve who may, forty DEBTS, 200 HOURS each. */

@@ -115,6 +115,10 @@ final class Portrait {
         put("state behind", x.look(12));
         put("lines behind", x.look(2));
         put("quarter behind", x.look(4));
+        for (int d = 0; d < 3; d++) {
+            put("hours of " + d + " behind", x.of(d, 2));
+            put("part of " + d + " behind", x.of(d, 3));
+        }
     }
 
     private void bargains() {

@@ -267,6 +267,10 @@ public final class TextEdgesTest {
         for (String n : new String[] {"1", "01", "0001", "9999"}) {
             check.sound(0, "word when 1/" + n + "=1;", 1);
         }
+        for (String sign : new String[] {"=", ";", "+1=1", " and 1=1", ")", "<1", ""}) {
+            check.faulty(0, "word when 1/" + sign, 1, sign.startsWith(" ") ? 13 : 12);
+            check.faulty(0, "word when 1=1*2/" + sign, 1, sign.startsWith(" ") ? 17 : 16);
+        }
         check.sound(0, "word when 0/1=0;", 1);
         check.sound(0, "word when 1*0=0;", 1);
     }
@@ -317,6 +321,11 @@ public final class TextEdgesTest {
             check.sound(0, "word when " + b + " and " + b + " or " + b + ";", 1);
             check.due("eight open, " + nots + " of them not", judge(b), nots % 2 == 0 ? 1 : 0);
         }
+        String deep = "1=2 or 1=1 and(".repeat(8) + "1=2 or 1=1 and 7=1+3*2" + ")".repeat(8);
+        check.due("as deep as can be", judge(deep), 1);
+        check.due("and not so", judge(deep.replace("7=", "8=")), 0);
+        String nots = "1=2 or 1=1 and not " + "not ".repeat(7) + "7=1+3*2";
+        check.due("as deep by nots", judge(nots), 1);
         check.sound(0, "word when " + "(1=1)and".repeat(20) + "(1=1);", 1);
         check.sound(0, "word when " + "not 1=1 and ".repeat(20) + "not 1=1;", 1);
         check.sound(2, "hush when ((((((((1=1))))))));hush when ((((((((1=1))))))));", 2);
@@ -464,6 +473,14 @@ public final class TextEdgesTest {
         x.tell(11, 0, 4);
         Check.text(x, 2, "talk 1 when with=10;");
         check.due("with all but one", x.does(0), 2);
+        x.tell(11, 0, 5);
+        for (int who = 1; who < 11; who++) {
+            x.tell(who, 0, 1);
+        }
+        x.tell(11, 3, 0);
+        Check.text(x, 2, "talk 1 when with=1;");
+        check.due("the first with the last", x.does(0), 2);
+        check.due("the last with the first", x.does(11), 2);
         for (int d = 0; d < 40; d++) {
             x.debt(0, 11, 200);
         }

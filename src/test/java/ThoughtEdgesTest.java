@@ -1,3 +1,6 @@
+import java.util.List;
+import java.util.function.ToLongFunction;
+
 /** The boundaries that promises 24 to 26 and 29 and their Terms name, on both sides of each. */
 public final class ThoughtEdgesTest {
     private static final Check check = new Check("ThoughtEdgesTest");
@@ -11,6 +14,7 @@ public final class ThoughtEdgesTest {
         whomJustSoLoud();
         whomByNightAndDay();
         whomNeedsWhispers();
+        whomNeedsAWord();
         whomOnFeasts();
         quietThatCannotBe();
         quietWithoutDebts();
@@ -25,6 +29,8 @@ public final class ThoughtEdgesTest {
         betterOfBoth();
         imageThatIsNone();
         imageMoreThanOnce();
+        imageHoldsEach();
+        imageHoldsBargainsThemselves();
         imageWithoutTapeAndFault();
         imageOfAFullBook();
         imageOfSixtyBargains();
@@ -125,6 +131,24 @@ public final class ThoughtEdgesTest {
             x.one(2, 0, 40, whispers, 0);
             check.due("by night, WHISPERS " + whispers, x.whom(0, 0, 3, 40), whispers * 3);
             check.due("by day, WHISPERS " + whispers, x.whom(0, 0, 12, 40), whispers + 2);
+        }
+    }
+
+    /** "A NOISE, which is a WORD": by its SORT, and by whether a child makes it. */
+    private static void whomNeedsAWord() {
+        String[] laws = {"sort=0", "sort=1", "sort=2", "sort=3", "child=1", "child=0", "1=2"};
+        int[] night = {0, 2, 1, 0, 1, 2, 0};
+        int[] day = {2, 0, 1, 4, 1, 6, 0};
+        for (int i = 0; i < laws.length; i++) {
+            SilenceForMoney x = new SilenceForMoney();
+            Check.text(x, 0, "word when " + laws[i] + ";");
+            Check.text(x, 2, "talk 40;");
+            Check.text(x, 3, "work 40;");
+            x.one(1, 0, 40, 1, 0);
+            x.one(0, 0, 80, 1, 0);
+            x.one(0, 0, 40, 1, 1);
+            check.due("by night with " + laws[i], x.whom(0, 0, 3, 40), night[i]);
+            check.due("by day with " + laws[i], x.whom(0, 0, 12, 40), day[i]);
         }
     }
 
@@ -384,6 +408,15 @@ public final class ThoughtEdgesTest {
             x.quarters(8);
             check.due("what was is not counted", x.thought(1, 0, 0), 24);
         }
+        SilenceForMoney y = Towns.grown(2);
+        Check.text(y, 0, "word when 1=1;");
+        Check.text(y, 2, "talk 9 when hour<14;");
+        y.tell(0, 3, 0);
+        y.debt(1, 0, 200);
+        y.quarters(9);
+        check.due("he SPOKE", y.look(8), 8);
+        check.due("which is not counted", y.thought(1, 0, 3), 32);
+        check.due("nor by the other", y.thought(1, 1, 3), 0);
     }
 
     /** "More HOURS are paid, then fewer begun again; of both 0". */
@@ -468,6 +501,80 @@ public final class ThoughtEdgesTest {
         check.due("the latest one", y.look(4), 48 + 5 + 3);
         y.image(false);
         check.due("the latest one again", y.look(4), 48 + 5 + 3);
+    }
+
+    /** "All that is and was told": each thing for itself, where it is seen to matter. */
+    private static void imageHoldsEach() {
+        Twins plain = new Twins(check, ThoughtEdgesTest::talkative);
+        List<ToLongFunction<SilenceForMoney>> told = List.of(x -> x.state(99), x -> x.one(0, 0, 1, 1, 0),
+            x -> one(x.tell(1, 0, 2)), x -> one(x.tell(2, 1, 5)), x -> one(x.tell(2, 2, 0)), x -> one(x.tell(1, 3, 4)),
+            x -> one(x.tell(1, 4, 5)), x -> one(x.tell(2, 5, -1)), x -> one(x.wall(0, 1, 40)), x -> one(x.set(0, -1)),
+            x -> one(x.set(1, 60)), x -> one(x.set(2, 900)), x -> one(x.set(3, 1)), x -> one(x.set(4, 1)),
+            x -> one(x.set(5, 1)), x -> one(x.set(6, 5)), x -> one(x.set(7, 90)), x -> one(x.set(22, 5)),
+            x -> one(x.set(23, 5)), x -> x.debt(0, 1, 9), x -> one(x.helpers(1, 3)),
+            x -> Check.text(x, 0, "word when 1=2;"), x -> Check.text(x, 1, "word when 1=2;"),
+            x -> Check.text(x, 2, "work 1;"), x -> x.quarters(1), x -> x.quarters(30), x -> one(x.lend(1, 3, 4)),
+            x -> x.split(1, 1), x -> x.inherit(1, 3), x -> one(x.sell(1, 3, 4)), x -> one(x.undo()));
+        for (int i = 0; i < told.size(); i++) {
+            ToLongFunction<SilenceForMoney> tell = told.get(i);
+            plain.changes("what is told as " + i, tell.applyAsLong(talkative()), tell);
+            plain.leaves("gone back from " + i, 1, x -> {
+                tell.applyAsLong(x);
+                return one(x.image(false));
+            });
+        }
+    }
+
+    private static int one(boolean answer) {
+        return answer ? 1 : 0;
+    }
+
+    /** An object in which a small change of anything is seen soon; its image is of just now. */
+    private static SilenceForMoney talkative() {
+        SilenceForMoney x = new SilenceForMoney();
+        x.one(0, 0, 60, 500, 4);
+        x.one(0, 1, 60, 500, 0);
+        x.one(1, 1, 30, 500, 4);
+        x.one(0, 1, 60, 0, 4);
+        Check.text(x, 0, "word when loud>8;");
+        Check.text(x, 1, "word when sort=0;");
+        Check.text(x, 2, "talk 27 when hour=12 and quarter=2 or hour=15;talk 4 when owed>1;hush;");
+        for (int who = 0; who < 4; who++) {
+            x.tell(who, 4, 50);
+        }
+        x.tell(2, 5, 1);
+        x.debt(1, 0, 4);
+        x.debt(1, 3, 3);
+        x.debt(3, 1, 5);
+        x.wall(1, 5, 40);
+        x.set(0, 0);
+        x.set(2, 20);
+        x.set(6, 1);
+        x.set(7, 49);
+        x.state(12);
+        x.lend(1, 0, 3);
+        x.quarters(2);
+        x.image(true);
+        return x;
+    }
+
+    /** BARGAINS that were made since are gone, those that were undone since are there again. */
+    private static void imageHoldsBargainsThemselves() {
+        SilenceForMoney x = Towns.grown(4);
+        x.debt(0, 1, 9);
+        x.lend(0, 2, 30);
+        x.image(true);
+        x.undo();
+        x.sell(0, 3, 70);
+        x.image(false);
+        check.due("its creditor", x.of(0, 1), 2);
+        check.due("its PROXY", x.of(0, 4), -1);
+        check.due("COIN of both", x.person(1, 5) * 1000 + x.person(2, 5), 130070);
+        check.due("undo", x.undo(), true);
+        check.due("the creditor ahead", x.of(0, 1), 1);
+        check.due("COIN goes back", x.person(1, 5) * 1000 + x.person(2, 5), 100100);
+        check.due("no COIN of what is gone", x.person(0, 5) * 1000 + x.person(3, 5), 100100);
+        check.due("no more", x.undo(), false);
     }
 
     /** "All .. but the TAPE and fault()". */

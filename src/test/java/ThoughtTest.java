@@ -366,7 +366,7 @@ public final class ThoughtTest {
         x.helpers(0, 3);
         x.quarters(6);
         x.image(true);
-        String before = portrait(x);
+        String before = Portrait.of(x);
         x.state(1);
         x.one(0, 0, 0, 0, 4);
         Check.text(x, 0, "word when 1=1;");
@@ -391,46 +391,12 @@ public final class ThoughtTest {
         x.helpers(0, 0);
         x.quarters(77);
         x.image(false);
-        check.due("all is as it was", portrait(x).equals(before), true);
+        check.due("all is as it was", Portrait.of(x).equals(before), true);
         x.quarters(77);
-        String on = portrait(x);
+        String on = Portrait.of(x);
         x.undo();
         x.image(false);
         x.quarters(77);
-        check.due("all goes on alike", portrait(x).equals(on), true);
-    }
-
-    /** All that can be asked without changing anything. */
-    private static String portrait(SilenceForMoney x) {
-        StringBuilder s = new StringBuilder();
-        for (int what = 0; what <= 12; what++) {
-            s.append(x.look(what)).append(' ');
-        }
-        for (int who = 0; who < 5; who++) {
-            for (int what = 0; what < 10; what++) {
-                s.append(x.person(who, what)).append(' ').append(x.noise(who, what)).append(' ');
-            }
-            s.append(x.does(who)).append(' ');
-        }
-        for (int d = 0; d < 4; d++) {
-            for (int what = 0; what < 8; what++) {
-                s.append(x.of(d, what)).append(' ');
-            }
-        }
-        for (int i = 0; i < x.look(2); i++) {
-            for (int what = 0; what < 5; what++) {
-                s.append(x.book(i, what)).append(' ');
-            }
-        }
-        for (int law = 0; law < 2; law++) {
-            s.append(x.word(law, 0, 50, 12, false, false)).append(x.word(law, 0, 49, 12, false, false)).append(' ');
-            for (int what = 0; what < 4; what++) {
-                s.append(x.thought(9, law, what)).append(' ');
-            }
-        }
-        for (int what = 0; what < 3; what++) {
-            s.append(x.soonest(what)).append(' ').append(x.quiet(4, what)).append(' ');
-        }
-        return s.append(x.whom(0, 1, 12, 6)).append(x.whom(0, 1, 12, 50)).toString();
+        check.due("all goes on alike", Portrait.of(x).equals(on), true);
     }
 }
