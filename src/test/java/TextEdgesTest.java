@@ -25,6 +25,7 @@ public final class TextEdgesTest {
         seventeenLines();
         nineOpen();
         theEndIsTheLength();
+        nothingBehindTheEnd();
         theFirstFault();
         theLeastAtOnePlace();
         numbersWrap();
@@ -326,6 +327,10 @@ public final class TextEdgesTest {
         check.due("and not so", judge(deep.replace("7=", "8=")), 0);
         String nots = "1=2 or 1=1 and not " + "not ".repeat(7) + "7=1+3*2";
         check.due("as deep by nots", judge(nots), 1);
+        check.due("not behind and", judge("1=1 and not 1=2"), 1);
+        check.due("not behind and, not so", judge("1=1 and not 1=1"), 0);
+        check.due("not behind or", judge("1=2 or not 1=2"), 1);
+        check.due("not behind both", judge("1=2 or 1=1 and not 1=1"), 0);
         check.sound(0, "word when " + "(1=1)and".repeat(20) + "(1=1);", 1);
         check.sound(0, "word when " + "not 1=1 and ".repeat(20) + "not 1=1;", 1);
         check.sound(2, "hush when ((((((((1=1))))))));hush when ((((((((1=1))))))));", 2);
@@ -349,6 +354,32 @@ public final class TextEdgesTest {
         check.faulty(0, full, 1, 399);
         check.faulty(0, full + " ", 1, 400);
         check.sound(0, full + ";", 1);
+    }
+
+    /** "The TAPE has its first n bytes alone": what was behind them is no part of a run. */
+    private static void nothingBehindTheEnd() {
+        String[] cut = {"word when hour|x=1;", "word when 1=1 o|r 1=1;", "word when 123|45=1;", "word when 1/1|0=1;", "wor|d"};
+        int[] place = {14, 14, 13, 13, 0};
+        for (int i = 0; i < cut.length; i++) {
+            SilenceForMoney x = new SilenceForMoney();
+            int end = cut[i].indexOf('|');
+            Check.tape(x, cut[i].replace("|", ""));
+            x.end(end);
+            check.due("cut " + cut[i], x.text(0), -1);
+            check.due("a FAULT of it", x.fault(0), 1);
+            check.due("its place", x.fault(1), place[i]);
+        }
+        String full = "word when 1=1" + " ".repeat(385);
+        check.faulty(0, full + "or", 1, 400);
+        check.faulty(0, full + "an", 1, 398);
+        check.faulty(0, full + "12", 1, 398);
+        check.faulty(0, full + " o", 1, 399);
+        check.faulty(0, "word when 1=1+" + " ".repeat(382) + "1234", 1, 400);
+        check.faulty(0, "word when 1=1+" + " ".repeat(382) + "nigh", 1, 396);
+        check.faulty(0, " ".repeat(399) + ";", 1, 399);
+        check.faulty(0, "\n".repeat(399) + "w", 1, 399);
+        check.sound(0, " ".repeat(386) + "word when 1=1;", 1);
+        check.sound(2, "\n".repeat(395) + "hush;", 1);
     }
 
     /** "FAULTS, the first by its place". */
