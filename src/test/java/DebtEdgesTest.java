@@ -250,6 +250,12 @@ public final class DebtEdgesTest {
         check.due("by two", x.soonest(1), 8);
         x.sell(1, -1, 0);
         check.due("a HELPER without a PROXY", x.soonest(0), 8);
+        SilenceForMoney first = Towns.grown(2);
+        first.debt(1, 0, 4);
+        first.debt(1, 0, 4);
+        check.due("the debtor alone", first.soonest(0), 8);
+        first.sell(0, 0, 0);
+        check.due("the first of PEOPLE as a PROXY", first.soonest(0), 4);
         x.helpers(1, 0);
         check.due("nobody again", x.soonest(1), -1);
     }

@@ -20,6 +20,7 @@ public final class QuarterEdgesTest {
         brokenWithoutAPart();
         spokeAndNothingCounts();
         feastsCountNothing();
+        feastsAreAsked();
         whispersAtTheirEdges();
         loudByTwo();
         nightAndDay();
@@ -334,6 +335,28 @@ public final class QuarterEdgesTest {
             x.quarters(1);
             check.due("spoke by FEASTS " + c[0] + " DAY " + c[1], x.look(8), c[2] == 1 ? 0 : 1);
             check.due("but made it", x.noise(0, 2), 1);
+        }
+    }
+
+    /** "Feast (1, 0)": in LAWS and RULES, by night and by day, with what is owed then. */
+    private static void feastsAreAsked() {
+        for (int quarter : new int[] {0, 48, 95}) {
+            for (int day = 0; day < 3; day++) {
+                SilenceForMoney x = new SilenceForMoney();
+                Check.text(x, 0, "word when feast=1;");
+                Check.text(x, 2, "talk 3 when feast=1 and owes=7;talk 4 when feast=0 and owed=0;");
+                x.one(1, 0, 30, 1000, 4);
+                x.one(0, 0, 30, 1000, 0);
+                x.debt(1, 0, 7);
+                x.set(4, 2);
+                x.set(6, day);
+                x.set(7, quarter);
+                x.quarters(1);
+                boolean feast = day != 1;
+                check.due("a cry is a WORD on " + day, x.noise(0, 2), feast ? 1 : 0);
+                check.due("his NOISE on " + day, x.noise(1, 1), quarter != 48 ? 15 : feast ? 3 : 4);
+                check.due("is a WORD on " + day, x.noise(1, 2), feast ? 1 : 0);
+            }
         }
     }
 

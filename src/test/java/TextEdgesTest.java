@@ -327,6 +327,9 @@ public final class TextEdgesTest {
         check.due("and not so", judge(deep.replace("7=", "8=")), 0);
         String nots = "1=2 or 1=1 and not " + "not ".repeat(7) + "7=1+3*2";
         check.due("as deep by nots", judge(nots), 1);
+        check.due("a bracket behind and", judge("1=1 and(1=2)"), 0);
+        check.due("a bracket behind or", judge("1=2 or(1=1 and 1=2)"), 0);
+        check.due("brackets within", judge("1=1 and(1=1 and(1=2))or 1=2"), 0);
         check.due("not behind and", judge("1=1 and not 1=2"), 1);
         check.due("not behind and, not so", judge("1=1 and not 1=1"), 0);
         check.due("not behind or", judge("1=2 or not 1=2"), 1);
