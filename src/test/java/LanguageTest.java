@@ -1,3 +1,4 @@
+import java.io.File;
 import java.io.IOException;
 import java.lang.reflect.Constructor;
 import java.lang.reflect.Field;
@@ -24,6 +25,7 @@ public final class LanguageTest {
         String code = withoutComments(source);
         forbidden(code);
         methods(code);
+        depths();
         check.due("classes", SilenceForMoney.class.getDeclaredClasses().length <= 11, true);
         check.end();
     }
@@ -81,6 +83,17 @@ public final class LanguageTest {
         while (imports.find()) {
             check.due("import " + imports.group(1), imports.group(1).equals("java.util.Arrays"), true);
         }
+    }
+
+    /** Calls go at most eight deep; the Reader's recursion is bounded by how many brackets may be open. */
+    private static void depths() {
+        String folder = SilenceForMoney.class.getProtectionDomain().getCodeSource().getLocation().getPath();
+        Calls calls = new Calls(new File(folder), "SilenceForMoney");
+        check.due("methods that javap tells of", calls.methods().size() > 100, true);
+        for (String name : FACE) {
+            check.due("how deep " + name + " goes", calls.deepest("SilenceForMoney." + name) <= 8, true);
+        }
+        check.due("javap tells of chains", calls.deepest("SilenceForMoney.thought") > 4, true);
     }
 
     private static void methods(String code) {
