@@ -1,74 +1,105 @@
-import java.io.File;
-import java.io.PrintWriter;
-import java.io.StringWriter;
-import java.util.ArrayList;
-import java.util.Arrays;
+import com.sun.source.tree.ClassTree;
+import com.sun.source.tree.CompilationUnitTree;
+import com.sun.source.tree.MethodInvocationTree;
+import com.sun.source.tree.MethodTree;
+import com.sun.source.tree.NewClassTree;
+import com.sun.source.util.JavacTask;
+import com.sun.source.util.TreePath;
+import com.sun.source.util.TreePathScanner;
+import com.sun.source.util.Trees;
+import java.io.IOException;
+import java.nio.file.Path;
 import java.util.HashSet;
 import java.util.List;
 import java.util.Map;
 import java.util.Set;
 import java.util.TreeMap;
 import java.util.TreeSet;
-import java.util.regex.Matcher;
-import java.util.regex.Pattern;
-import java.util.spi.ToolProvider;
+import javax.lang.model.element.Element;
+import javax.tools.JavaCompiler;
+import javax.tools.StandardJavaFileManager;
+import javax.tools.ToolProvider;
 
-/** Which method of the compiled class calls which of its own, as javap tells it. */
-final class Calls {
-    private static final Pattern CLASS = Pattern.compile("^\\S.*class (\\S+) \\{");
-    private static final Pattern METHOD = Pattern.compile("^  \\S.*?([\\w$.]+)\\(.*\\);");
-    private static final Pattern CALL = Pattern.compile("// Method ([^:]+):");
-
+/** Which method of a source file calls which of the same file, as javac understands it. */
+final class Calls extends TreePathScanner<Void, Void> {
     private final Map<String, Set<String>> calls = new TreeMap<>();
+    private final Trees trees;
+    private String open = "";
 
-    Calls(File folder, String name) {
-        List<String> files = new ArrayList<>(List.of("-p", "-c"));
-        for (File file : folder.listFiles()) {
-            if (file.getName().matches(name + "(\\$.*)?\\.class")) {
-                files.add(file.getPath());
-            }
-        }
-        StringWriter out = new StringWriter();
-        PrintWriter to = new PrintWriter(out);
-        ToolProvider.findFirst("javap").orElseThrow().run(to, to, files.toArray(new String[0]));
-        read(out.toString().split("\n"));
+    private Calls(Trees newTrees) {
+        trees = newTrees;
     }
 
-    private void read(String[] lines) {
-        String owner = "";
-        String method = "";
-        for (String line : lines) {
-            Matcher type = CLASS.matcher(line);
-            Matcher declared = METHOD.matcher(line);
-            Matcher call = CALL.matcher(line);
-            if (type.find()) {
-                owner = type.group(1);
-            } else if (declared.find()) {
-                String called = declared.group(1);
-                method = owner + "." + (called.equals(owner) ? "<init>" : called);
-                calls.put(method, new TreeSet<>());
-            } else if (call.find()) {
-                String called = call.group(1).replace("\"", "");
-                calls.get(method).add(called.contains(".") ? called : owner + "." + called);
-            }
+    static Calls in(Path file) throws IOException {
+        JavaCompiler compiler = ToolProvider.getSystemJavaCompiler();
+        try (StandardJavaFileManager files = compiler.getStandardFileManager(null, null, null)) {
+            JavacTask task = (JavacTask) compiler.getTask(null, files, null, List.of("-proc:none"), null,
+                files.getJavaFileObjects(file));
+            Iterable<? extends CompilationUnitTree> units = task.parse();
+            task.analyze();
+            Calls calls = new Calls(Trees.instance(task));
+            calls.scan(units, null);
+            return calls;
         }
+    }
+
+    @Override
+    public Void visitClass(ClassTree node, Void none) {
+        String outer = open;
+        // What a field begins with is called by the constructor.
+        open = nameOf(trees.getElement(getCurrentPath())) + ".<init>";
+        calls.computeIfAbsent(open, name -> new TreeSet<>());
+        super.visitClass(node, none);
+        open = outer;
+        return null;
+    }
+
+    @Override
+    public Void visitMethod(MethodTree node, Void none) {
+        String outer = open;
+        open = methodName(trees.getElement(getCurrentPath()));
+        calls.computeIfAbsent(open, name -> new TreeSet<>());
+        super.visitMethod(node, none);
+        open = outer;
+        return null;
+    }
+
+    @Override
+    public Void visitMethodInvocation(MethodInvocationTree node, Void none) {
+        Element called = trees.getElement(new TreePath(getCurrentPath(), node.getMethodSelect()));
+        calls.get(open).add(methodName(called));
+        return super.visitMethodInvocation(node, none);
+    }
+
+    @Override
+    public Void visitNewClass(NewClassTree node, Void none) {
+        calls.get(open).add(methodName(trees.getElement(getCurrentPath())));
+        return super.visitNewClass(node, none);
+    }
+
+    private static String methodName(Element method) {
+        return nameOf(method.getEnclosingElement()) + "." + method.getSimpleName();
+    }
+
+    private static String nameOf(Element type) {
+        return type.getSimpleName().toString();
     }
 
     Set<String> methods() {
         return calls.keySet();
     }
 
-    /** How many methods stand open at most, from this one on, none of them twice. */
+    /** How many methods stand open at most from this one on, none of them twice: a recursion counts once. */
     int deepest(String method) {
-        return deepest(method, new HashSet<>(Arrays.asList(method)));
+        return deepest(method, new HashSet<>(Set.of(method)));
     }
 
-    private int deepest(String method, Set<String> open) {
+    private int deepest(String method, Set<String> chain) {
         int most = 0;
         for (String next : calls.get(method)) {
-            if (calls.containsKey(next) && open.add(next)) {
-                most = Math.max(most, deepest(next, open));
-                open.remove(next);
+            if (calls.containsKey(next) && chain.add(next)) {
+                most = Math.max(most, deepest(next, chain));
+                chain.remove(next);
             }
         }
         return most + 1;

@@ -1,4 +1,3 @@
-import java.io.File;
 import java.io.IOException;
 import java.lang.reflect.Constructor;
 import java.lang.reflect.Field;
@@ -86,14 +85,13 @@ public final class LanguageTest {
     }
 
     /** Calls go at most eight deep; the Reader's recursion is bounded by how many brackets may be open. */
-    private static void depths() {
-        String folder = SilenceForMoney.class.getProtectionDomain().getCodeSource().getLocation().getPath();
-        Calls calls = new Calls(new File(folder), "SilenceForMoney");
-        check.due("methods that javap tells of", calls.methods().size() > 100, true);
+    private static void depths() throws IOException {
+        Calls calls = Calls.in(Path.of("src/main/java/SilenceForMoney.java"));
+        check.due("methods that are found", calls.methods().size() > 100, true);
+        check.due("chains that are found", calls.deepest("SilenceForMoney.thought") > 4, true);
         for (String name : FACE) {
             check.due("how deep " + name + " goes", calls.deepest("SilenceForMoney." + name) <= 8, true);
         }
-        check.due("javap tells of chains", calls.deepest("SilenceForMoney.thought") > 4, true);
     }
 
     private static void methods(String code) {
